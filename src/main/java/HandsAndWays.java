@@ -591,7 +591,7 @@ public final class HandsAndWays {
 
         /** Apart from where it lies and where a hand is. */
         boolean canBeHeld(int t, int side) {
-            return Kinds.isHeldFrom(kind[t], side) && weightOf(t) <= strength;
+            return Kinds.isHeldFrom(kind[t], side) && Kinds.weightOf(kind[t], wide[t]) <= strength;
         }
     }
 
@@ -781,8 +781,7 @@ public final class HandsAndWays {
 
         private int cellAhead(int c, int k) {
             for (int side = Cells.NORTH; side <= Cells.WEST; side++) {
-                boolean level = side == Cells.EAST || side == Cells.WEST;
-                if (!turns && !level) continue;
+                // what doesn't turn up leaves all layers in one row: nothing lies north or south of it there
                 int from = Cells.beside(c, side);
                 if (from >= 0 && Cells.has(layers[k], from)) return from;
             }
@@ -803,12 +802,10 @@ public final class HandsAndWays {
         }
 
         private int thingsIn(Scene s, long cells, int own) {
+            // no two things are ever in one cell, so each of them is its cells' least one
             int bits = 0;
-            long left = cells;
             for (int t = 0; t < room.things; t++) {
-                if (t == own || (cellsOf(s, t) & left) == 0L) continue;
-                bits |= 1 << t;
-                left &= ~cellsOf(s, t);
+                if (t != own && (cellsOf(s, t) & cells) != 0L) bits |= 1 << t;
             }
             return bits;
         }

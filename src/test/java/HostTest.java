@@ -142,6 +142,10 @@ public final class HostTest {
         due("walls: it is", x.cellTold(6), -10);
         due("walls: not what stood before", x.cellTold(5), -1);
         due("walls: not the thing", x.walls(0, 2, 6, 1), 0);
+        x.sheet(1, 1, 40);
+        due("walls: 40", x.walls(1, 1, 0, 40), 40);
+        due("walls: 40 from 1", x.walls(1, 1, 1, 40), -12);
+        due("walls: the last", x.walls(1, 1, 39, 1), 1);
     }
 
     /** Promise 41. */

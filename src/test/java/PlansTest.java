@@ -40,6 +40,8 @@ public final class PlansTest {
         due("like: moves", x.plan(0, 0, 63, 0, 0), 1);
         move("like", x, 0, 0, 0, 63);
         due("like: far", x.planned(0, 3), 5 + 8);
+        x.strong(2);
+        due("heavy as strong: moves", x.plan(0, 0, 63, 0, 0), 1);
         x.strong(1);
         due("heavy: none", x.plan(0, 0, 63, 0, 0), -3);
         due("heavy: far", x.planned(0, 3), -3);
