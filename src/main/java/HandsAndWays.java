@@ -717,7 +717,7 @@ public final class HandsAndWays {
             return NONE;
         }
 
-        /** The cells that aren't free for a hand (NONE: both hands take theirs), as if some things (bits) weren't there. */
+        /** What isn't free for a hand (NONE: both take their cells), as if some things (bits) weren't there. */
         long takenFor(Scene s, int h, int without) {
             long cells = room.walled | shutDoors(s);
             for (int t = 0; t < room.things; t++) {
