@@ -250,6 +250,28 @@ public final class ActEdgesTest {
         due("open: the other is shut", z.isOpen(1), 0);
     }
 
+    /** "no other THING": whichever it holds, by either hand, it is not in its own way; it is HELD for the other one. */
+    private static void whicheverIsHeld() {
+        for (int t = 0; t < 8; t++) {
+            for (int h = 0; h < 2; h++) {
+                HandsAndWays x = new HandsAndWays();
+                for (int k = 0; k < 8; k++) x.thing(3, 2, k == t ? 1 : 8 * (k == 0 ? t : k) + 6);
+                x.hand(h, 0);
+                String name = "held: thing " + t + " by hand " + h;
+                due(name, x.take(h, t, 3), 0);
+                x.hand(1 - h, 9);
+                due(name + ", not by the other one", x.take(1 - h, t, 2), -11);
+                due(name + ", over its own cells", x.go(h, 2), 2);
+                due(name + ", where it lies", x.thingTold(t, 1), 3);
+                due(name + ", told by its hand", x.handTold(h, 1), t);
+                due(name + ", put", x.put(h), 0);
+                due(name + ", its hand holds none", x.handTold(h, 1), -1);
+                x.hand(1 - h, 11);
+                due(name + ", now by the other one", x.take(1 - h, t, 2), 0);
+            }
+        }
+    }
+
     /** "a THING that is HELD goes with the HAND", from each side, as far as the room's edges. */
     private static void whatIsHeldGoesAlong() {
         for (int wide = 1; wide <= 2; wide++) {
@@ -286,6 +308,7 @@ public final class ActEdgesTest {
         openTakesNumbers();
         openTellsTheFirstWhy();
         openWithoutAKey();
+        whicheverIsHeld();
         whatIsHeldGoesAlong();
         Check.end("ActEdgesTest");
     }

@@ -64,6 +64,7 @@ public final class CaseEdgesTest {
             x.thing(0, 1, 8);
             for (int i = 0; i < n; i++) due("sure: case " + i, x.maybe(1, i, 5), i);
             due("sure: counted " + n, x.count(6), n);
+            if (n > 0) due("sure: of another thing not yet", x.maybe(0, 1, 5), -3);
             due("sure: were " + n, x.sure(), n);
             due("sure: are none", x.count(6), 0);
             due("sure: were none", x.sure(), 0);
@@ -140,6 +141,18 @@ public final class CaseEdgesTest {
         due("lies: put by hand 0", oneCase(x, 2), 1);
     }
 
+    /** "no other THING" is there: whichever thing it is, it may lie where it lies, or half there. */
+    private static void whicheverThingItIs() {
+        for (int t = 0; t < 8; t++) {
+            HandsAndWays x = new HandsAndWays();
+            for (int k = 0; k < 8; k++) x.thing(0, 2, 8 * k + 2);
+            Check.program(x, "w0;");
+            for (int i = 0; i < 5; i++) x.maybe(t, 8 * t + i, 1);
+            x.maybe(t, t == 7 ? 3 : 8 * t + 11, 1);
+            due("lies: thing " + t, x.cases(0, 0, 0), 31);
+        }
+    }
+
     private static int oneCase(HandsAndWays x, int c) {
         x.sure();
         x.maybe(0, c, 1);
@@ -212,6 +225,39 @@ public final class CaseEdgesTest {
         x.hand(0, 39);
         x.back();
         due("keeps: all, first unlike", Told.firstUnlike(x, imageOf(busy())), -1);
+    }
+
+    /** "HANDS with all that they do": a wait that goes on, a program that ended since, or came since. */
+    private static void whatHandsDo() {
+        for (int h = 0; h < 2; h++) {
+            HandsAndWays x = new HandsAndWays();
+            Check.program(x, "w9;");
+            x.start(h, 0);
+            x.run(4);
+            x.image();
+            x.run(8);
+            due("do: it ended since", x.handTold(h, 3), -1);
+            x.back();
+            due("do: it has it again", x.handTold(h, 3), 0);
+            x.run(4);
+            due("do: it waits still", x.handTold(h, 4), 0);
+            x.run(1);
+            due("do: the ticks count that it had waited", x.handTold(h, 4), 1);
+            HandsAndWays y = new HandsAndWays();
+            Check.program(y, "p;");
+            y.image();
+            y.start(h, 0);
+            y.run(3);
+            y.back();
+            due("do: it had none", y.handTold(h, 3), -1);
+            due("do: it was not blocked", y.handTold(h, 5), 0);
+            due("do: it may start", y.start(h, 0), 0);
+            y.run(3);
+            y.image();
+            y.run(9);
+            y.back();
+            due("do: it was blocked", y.handTold(h, 5), 3);
+        }
     }
 
     private static HandsAndWays imageOf(HandsAndWays x) {
@@ -306,10 +352,12 @@ public final class CaseEdgesTest {
         casesTakesNumbers();
         sharesInLowestTerms();
         whereItCanLie();
+        whicheverThingItIs();
         eachCaseHasItsBit();
         theMostSteps();
         imagesAreOfNow();
         whatAnImageKeeps();
+        whatHandsDo();
         whatAnImageKeepsNot();
         whatCameSince();
         Check.end("CaseEdgesTest");

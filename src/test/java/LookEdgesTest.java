@@ -147,13 +147,17 @@ public final class LookEdgesTest {
 
     /** Promise 18: "-10 a WALL, else -11 a SHUT DOOR, else 100 and the HAND", where an image brought a hand back. */
     private static void cellsAreToldInOrder() {
+        for (int h = 0; h < 2; h++) cellsAreToldInOrder(h);
+    }
+
+    private static void cellsAreToldInOrder(int h) {
         HandsAndWays x = new HandsAndWays();
-        x.hand(1, 20);
+        x.hand(h, 20);
         x.thing(0, 1, 21);
         x.image();
-        x.hand(1, 22);
-        x.take(1, 0, 1);
-        x.go(1, 42);
+        x.hand(h, 22);
+        x.take(h, 0, 1);
+        x.go(h, 42);
         for (int c = 20; c < 22; c++) {
             x.door(c, -1);
             x.wall(c, 1);
@@ -165,11 +169,11 @@ public final class LookEdgesTest {
         x.wall(21, 0);
         due("order: a shut door ahead of a hand", x.cellTold(20), -11);
         due("order: a shut door ahead of a thing", x.cellTold(21), -11);
-        due("order: it stands beside the other door", x.open(1, 1), 0);
+        due("order: it stands beside the other door", x.open(h, 1), 0);
         due("order: then the thing", x.cellTold(21), 0);
-        x.hand(0, 19);
-        x.open(0, 0);
-        due("order: then the hand", x.cellTold(20), 101);
+        x.hand(1 - h, 19);
+        x.open(1 - h, 0);
+        due("order: then the hand", x.cellTold(20), 100 + h);
     }
 
     /** Promise 19: "NONE". */

@@ -133,6 +133,9 @@ public final class PlanEdgesTest {
         HandsAndWays x = plain();
         due("six: it lies there", x.plan(0, 0, 20, 255, 0), 0);
         due("six: of no moves", x.planned(0, 3), 0);
+        due("six: first one", x.plan(0, 0, 21, 255, 0), 1);
+        due("six: then none", x.plan(0, 0, 20, 255, 0), 0);
+        due("six: of no moves, behind one", x.planned(0, 3), 0);
         due("six: no move 0", x.planned(0, 0), -7);
         x.go(0, 19);
         x.take(0, 0, 3);
@@ -356,7 +359,7 @@ public final class PlanEdgesTest {
         for (int first = 20; first <= 36; first += 16) {
             HandsAndWays x = new HandsAndWays();
             for (int y = 0; y < 8; y++) if (y != 2 && y != 4) x.wall(8 * y + 4, 1);
-            for (int y = 7; y < 8; y++) for (int k = 0; k < 8; k++) x.wall(8 * y + k, 1);
+            for (int k = 0; k < 8; k++) x.wall(56 + k, 1);
             x.thing(0, 1, first);
             x.thing(0, 1, 56 - first);
             x.thing(0, 1, 27);
@@ -430,6 +433,9 @@ public final class PlanEdgesTest {
         Check.sheet(x, 0, 8, 8, 16, 7, 7);
         x.plan(0, 0, 63, 2, 0);
         learnt("asked: not to where it is; twice to the same place is a use", x, 1 + 2, 1 + 1, 4 + 2 * 4);
+        Check.sheet(x, 1, 31);
+        x.plan(0, 0, 63, 4, 1);
+        learnt("asked: not for the places of the plan before", x, 3 + 1, 2 + 2, 4);
         HandsAndWays y = nothingCanBe();
         Check.sheet(y, 0);
         y.plan(0, 0, 63, 255, 0);
@@ -469,6 +475,18 @@ public final class PlanEdgesTest {
         learnt("not asked: but the aim is", y, 2, 2, 4);
         y.plan(0, 1, 62, 1, 0);
         due("not asked: the aim lies nowhere, whatever is moved", y.planned(0, 3), -3);
+        for (int to = 0; to < 64; to += 9) {
+            HandsAndWays z = new HandsAndWays();
+            z.hand(0, 27);
+            z.image();
+            z.thing(0, 1, 9);
+            z.back();
+            Check.sheet(z, 0);
+            due("not asked: what lies nowhere can't be brought to " + to, z.plan(0, 0, to, 0, 0), -3);
+            learnt("not asked: a rule of what lies nowhere", z, 1, 1, 4);
+            z.plan(0, 0, to, 0, 0);
+            learnt("not asked: it is used", z, 1, 3, 0);
+        }
     }
 
     /** "a RULE (12 at most)": the twelve first ones stay, and are used. */
@@ -526,12 +544,11 @@ public final class PlanEdgesTest {
         learnt("so: an open door isn't taken", x, 3, 9, 4);
     }
 
-    /** "THINGS by numbers (the aim, to its CELL, ..": the aim's turn comes by its number, a USE then. */
+    /** "the THING, the CELL, where it lies, where the HAND is, STRONG, and all CELLS that are taken": each one else is another RULE. */
     private static void rulesByEachOfTheSix() {
-        int[] none = {};
         for (int change = 0; change < 6; change++) {
             HandsAndWays x = nothingCanBe();
-            Check.sheet(x, 0, none);
+            Check.sheet(x, 0);
             x.plan(0, 1, 1, 0, 0);
             int thing = change == 0 ? 2 : 1, to = change == 1 ? 2 : 1;
             if (change == 2) {

@@ -246,7 +246,7 @@ public final class ProgramEdgesTest {
         x.thing(1, 1, 26);
         x.thing(4, 1, 36);
         x.door(24, -1);
-        x.door(32, 0);
+        x.door(32, -1);
         x.hand(0, 0);
         x.go(0, 1);
         x.wall(63, 1);
@@ -254,12 +254,11 @@ public final class ProgramEdgesTest {
         judged(x, 0, "g25;t0w;g16;p;g0;p;", 5, 1, 3 + 2 + 2, 0);
         judged(x, 0, "p;g2;", 0, 1, 0, 1);
         judged(x, 0, "g2;t7n;", 1, 1, 1, 2);
-        judged(x, 0, "g2;o3;", 1, 5, 1, 2);
+        judged(x, 0, "o2;", 0, 5, 0, 1);
         judged(x, 0, "g63;", 0, 4, 0, 1);
         HandsAndWays y = new HandsAndWays();
         y.thing(0, 1, 26);
         y.door(24, -1);
-        y.door(32, 0);
         judged(y, 1, "w5;p;", 1, 1, 0, -1);
         judged(y, 1, "g0;", 0, 1, 0, -1);
         judged(y, 1, "o0;", 0, 1, 0, -1);

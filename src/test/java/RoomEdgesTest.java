@@ -259,6 +259,21 @@ public final class RoomEdgesTest {
         refused("hand: what the other one holds", x -> x.hand(1, 40), -3);
         refused("hand: the other one", x -> x.hand(1, 41), -3);
         due("hand: its own cell", furnished().hand(1, 49), 49);
+        for (int t = 0; t < 8; t++) {
+            HandsAndWays x = eightThings(t);
+            due("hand: holds thing " + t, x.take(1, t, 3), 0);
+            due("hand: it holds one, thing " + t, x.hand(1, 20), -3);
+            x.put(1);
+            due("hand: it holds none, thing " + t, x.hand(1, 20), 0);
+        }
+    }
+
+    /** Thing t lies beside hand 1, which is in the first cell. */
+    private static HandsAndWays eightThings(int t) {
+        HandsAndWays x = new HandsAndWays();
+        for (int k = 0; k < 8; k++) x.thing(0, 1, k == t ? 1 : 48 + k);
+        x.hand(1, 0);
+        return x;
     }
 
     /** Promise 6: "STRONG (1 .. 99; 8 at first) both". */

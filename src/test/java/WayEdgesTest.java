@@ -60,6 +60,11 @@ public final class WayEdgesTest {
             refused("step: no way, " + n, x -> x.step(0, 19, n), -3);
             refused("step: a wall, " + n, x -> x.step(0, 11, n), -3);
         }
+        HandsAndWays y = Check.room("...");
+        y.hand(0, 0);
+        y.thing(0, 1, 1);
+        due("step: not through a thing", y.step(0, 2, 1), -3);
+        due("step: not into a thing", y.step(0, 1, 1), -3);
         due("step: 0 is its start", furnished().step(0, 17, 0), 0);
         due("step: FAR is its end", furnished().step(0, 17, 3), 17);
     }
@@ -245,6 +250,13 @@ public final class WayEdgesTest {
         y.take(0, 0, 1);
         y.thing(0, 1, 17);
         due("held: its first cell would be a wall, its last one is in the room", y.reached(0, 1), 0);
+        HandsAndWays v = Check.room("...#.");
+        v.thing(0, 1, 1);
+        v.thing(0, 1, 4);
+        v.hand(0, 0);
+        v.take(0, 0, 3);
+        due("held: not what lies behind its last cell", v.reached(0, 1), 0);
+        due("held: it comes to two", v.reached(0, 0), 2);
         HandsAndWays z = Check.room("...");
         z.thing(0, 2, 0);
         z.hand(0, 2);
@@ -344,6 +356,18 @@ public final class WayEdgesTest {
         due("lies: not what it holds", y.barred(0, 5), 0);
         y.put(0);
         due("lies: the other one, without it", y.barred(0, 5), 2);
+        for (int h = 0; h < 2; h++) {
+            HandsAndWays v = Check.room(
+                "........",
+                "##.#####");
+            v.thing(0, 1, 2);
+            v.hand(h, 10);
+            v.take(h, 0, 2);
+            v.hand(1 - h, 0);
+            due("lies: held from beside, by hand " + h, v.barred(1 - h, 4), 0);
+            v.put(h);
+            due("lies: put, by hand " + h, v.barred(1 - h, 4), 1);
+        }
         HandsAndWays z = Check.room("...");
         z.hand(0, 0);
         z.image();
